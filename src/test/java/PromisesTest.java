@@ -470,6 +470,8 @@ public final class PromisesTest {
         write(x, 2, true);
         check.due("12 those below the greatest", 2, x.free());
         check.due("12 it is told", true, x.told(5, 2));
+        check.due("12 they are dropped once", 0, x.free());
+        check.due("12 one is left", 1, x.rows());
         int writer = x.begin();
         check.due("12 the freed triple can be written", 1, x.put(writer, 1, true));
         check.due("12 and makes a version", 6, x.commit(writer));
@@ -565,6 +567,20 @@ public final class PromisesTest {
         check.due("15 pinned", 2, x.least());
         x.unpin(2);
         check.due("15 latest again", 3, x.least());
+        leastOfOneThatWaits();
+    }
+
+    private static void leastOfOneThatWaits() {
+        VersionTrans x = withWriters(1);
+        write(x, 1, true);
+        int holder = x.begin();
+        x.put(holder, 2, true);
+        x.put(0, 2, true);
+        check.due("15 waits", 1, x.state(0));
+        check.due("15 what it sees is kept", 0, x.least());
+        check.due("15 and can be told", false, x.told(0, 1));
+        x.abort(0);
+        check.due("15 no more", 1, x.least());
     }
 
     private static void promise16State() {
