@@ -1,6 +1,21 @@
 /** Compares answers with what is due, prints those that differ, and ends the test by them. */
 final class Check {
     private int wrong = 0;
+    private String sentence = "";
+
+    /** The document's words that the checks from here on are about. */
+    void sentence(String words) {
+        sentence = "[" + words + "] ";
+    }
+
+    /** What a test did not expect to be thrown is a wrong answer, and the next test goes on. */
+    void run(Runnable test) {
+        try {
+            test.run();
+        } catch (RuntimeException e) {
+            report("threw " + e);
+        }
+    }
 
     void due(String call, long want, long got) {
         if (got != want) {
@@ -11,6 +26,12 @@ final class Check {
     void due(String call, boolean want, boolean got) {
         if (got != want) {
             report(call + " answered " + got + ", due is " + want);
+        }
+    }
+
+    void due(String call, String want, String got) {
+        if (!got.equals(want)) {
+            report(call + " answered\n" + got + "\ndue is\n" + want);
         }
     }
 
@@ -39,7 +60,7 @@ final class Check {
     private void report(String line) {
         wrong++;
         if (wrong <= 50) {
-            System.out.println(line);
+            System.out.println(sentence + line);
         }
     }
 
