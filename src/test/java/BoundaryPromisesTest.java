@@ -84,8 +84,15 @@ public final class BoundaryPromisesTest {
         check.unknown("abort", () -> x.abort(0));
         check.unknown("version 1", () -> x.told(1, 0));
         check.unknown("not pinned", () -> x.unpin(0));
-        check.due("nothing there, no conflicts", Scene.picture(new VersionTrans()), Scene.picture(x));
-        check.due("no 1", -1, Scene.picture(x).replace("-1", "").indexOf('1'));
+        for (int triple = 0; triple < 200; triple++) {
+            check.due("no triple", false, x.told(0, triple));
+            check.due("no conflicts", 0, x.conflicts(0, triple));
+        }
+        for (int graph = 0; graph < 4; graph++) {
+            check.due("no conflicts", 0, x.conflicts(1, graph));
+        }
+        write(x, 0, true);
+        check.due("each for itself", 0, new VersionTrans().latest());
     }
 
     private static void beginSeesTheLatest() {
@@ -577,12 +584,12 @@ public final class BoundaryPromisesTest {
     private static void unpinHowOften() {
         check.sentence("11: It is pinned once less: how often");
         VersionTrans x = new VersionTrans();
-        for (int i = 0; i < 250; i++) {
+        for (int i = 0; i < 150; i++) {
             x.pin(0);
         }
         write(x, 1, true);
         x.pin(1);
-        for (int i = 249; i >= 0; i--) {
+        for (int i = 149; i >= 0; i--) {
             check.due("kept", 0, x.least());
             check.due("once less", i, x.unpin(0));
         }

@@ -1,8 +1,11 @@
+import java.util.function.Consumer;
+
 /**
  * What the document's 'What it is' and 'Terms' say at their boundaries: for each sentence (or part of
  * one that can be broken by itself) a test of its own, which bears its words.
  */
 public final class BoundaryTermsTest {
+    private static final int[] OF_THE_SCENE = {0, 1, 10, 12, 13, 14, 30, 60, 61, 199};
     private static final Check check = new Check();
 
     public static void main(String[] args) {
@@ -133,9 +136,9 @@ public final class BoundaryTermsTest {
         check.due("one version", 1, x.commit(0));
         check.due("rows", 200, x.rows());
         for (int triple = 0; triple < 200; triple++) {
-            check.due("version 0", false, x.told(0, triple));
             check.due("version 1", true, x.told(1, triple));
         }
+        check.due("version 0", false, x.told(0, 0) || x.told(0, 199));
     }
 
     private static void nextVersionNotAtAll() {
@@ -245,16 +248,21 @@ public final class BoundaryTermsTest {
     private static void version0IsEmpty() {
         check.sentence("in version 0 no triple is there");
         VersionTrans x = withWriters(1);
-        int reader = x.look(0);
         for (int triple = 0; triple < 200; triple++) {
             check.due("told", false, x.told(0, triple));
             check.due("read", false, x.read(0, triple));
-            x.put(0, triple, true);
         }
-        x.commit(0);
+        VersionTrans y = withWriters(1);
+        int reader = y.look(0);
         for (int triple = 0; triple < 200; triple++) {
-            check.due("told when version 1 has it", false, x.told(0, triple));
-            check.due("read when version 1 has it", false, x.read(reader, triple));
+            y.put(0, triple, true);
+        }
+        y.commit(0);
+        for (int triple = 0; triple < 200; triple++) {
+            check.due("told when version 1 has it", false, y.told(0, triple));
+        }
+        for (int triple = 0; triple < 200; triple += 10) {
+            check.due("read when version 1 has it", false, y.read(reader, triple));
         }
     }
 
@@ -841,61 +849,66 @@ public final class BoundaryTermsTest {
 
     private static void nothingIsChanged() {
         check.sentence("Nothing is changed then");
-        VersionTrans x = Scene.withEveryState();
-        String before = Scene.picture(x);
-        int[] ended = {0, 1, 6, 7, 8};
-        for (int number : ended) {
-            unchanged(x, before, "commit of ended " + number, () -> x.commit(number));
-            unchanged(x, before, "abort of ended " + number, () -> x.abort(number));
-            unchanged(x, before, "read by ended " + number, () -> x.read(number, 1));
+        for (int number : new int[] {0, 1, 6, 7, 8}) {
+            unchanged("commit of ended " + number, x -> x.commit(number));
+            unchanged("abort of ended " + number, x -> x.abort(number));
+            unchanged("read by ended " + number, x -> x.read(number, 1));
         }
         for (int number : new int[] {0, 1, 3, 4, 5, 6, 7, 8}) {
-            unchanged(x, before, "put by " + number, () -> x.put(number, 30, true));
-            unchanged(x, before, "put of a held one by " + number, () -> x.put(number, 10, true));
-            unchanged(x, before, "put of one with rows by " + number, () -> x.put(number, 61, true));
-            unchanged(x, before, "note by " + number, () -> x.note(number, 1));
+            unchanged("put by " + number, x -> x.put(number, 30, true));
+            unchanged("put of a held one by " + number, x -> x.put(number, 10, true));
+            unchanged("put of one with rows by " + number, x -> x.put(number, 61, true));
+            unchanged("note by " + number, x -> x.note(number, 1));
         }
-        unchanged(x, before, "commit of one that waits", () -> x.commit(3));
-        unchanged(x, before, "unpin of 0", () -> x.unpin(0));
-        unchanged(x, before, "unpin of 2", () -> x.unpin(2));
+        unchanged("commit of one that waits", x -> x.commit(3));
+        unchanged("unpin of 0", x -> x.unpin(0));
+        unchanged("unpin of 2", x -> x.unpin(2));
         for (int none : new int[] {-1, 9, 60, 200, Integer.MAX_VALUE, Integer.MIN_VALUE}) {
-            wrongNumberChangesNothing(x, before, none);
+            wrongNumberChangesNothing(none);
         }
-        check.due("no graph was noted", 2, x.note(2, 0));
     }
 
-    private static void wrongNumberChangesNothing(VersionTrans x, String before, int none) {
-        unchanged(x, before, "look at " + none, () -> x.look(none));
-        unchanged(x, before, "told of " + none, () -> x.told(none, 1));
-        unchanged(x, before, "pin of " + none, () -> x.pin(none));
-        unchanged(x, before, "unpin of " + none, () -> x.unpin(none));
-        unchanged(x, before, "put by " + none, () -> x.put(none, 30, true));
-        unchanged(x, before, "note by " + none, () -> x.note(none, 1));
-        unchanged(x, before, "read by " + none, () -> x.read(none, 1));
-        unchanged(x, before, "commit of " + none, () -> x.commit(none));
-        unchanged(x, before, "abort of " + none, () -> x.abort(none));
-        unchanged(x, before, "state of " + none, () -> x.state(none));
-        unchanged(x, before, "waits of " + none, () -> x.waits(none));
-        unchanged(x, before, "note of " + none, () -> x.note(2, none));
-        unchanged(x, before, "conflicts of kind " + none, () -> x.conflicts(none, 1));
-        unchanged(x, before, "conflicts of graph " + none, () -> x.conflicts(1, none));
+    private static void wrongNumberChangesNothing(int none) {
+        unchanged("look at " + none, x -> x.look(none));
+        unchanged("told of version " + none, x -> x.told(none, 1));
+        unchanged("pin of " + none, x -> x.pin(none));
+        unchanged("unpin of " + none, x -> x.unpin(none));
+        unchanged("put by " + none, x -> x.put(none, 30, true));
+        unchanged("note by " + none, x -> x.note(none, 1));
+        unchanged("read by " + none, x -> x.read(none, 1));
+        unchanged("commit of " + none, x -> x.commit(none));
+        unchanged("abort of " + none, x -> x.abort(none));
+        unchanged("state of " + none, x -> x.state(none));
+        unchanged("waits of " + none, x -> x.waits(none));
+        unchanged("note of " + none, x -> x.note(2, none));
+        unchanged("conflicts of kind " + none, x -> x.conflicts(none, 1));
+        unchanged("conflicts of graph " + none, x -> x.conflicts(1, none));
         if (none < 0 || none >= 200) {
-            unchanged(x, before, "put of " + none, () -> x.put(2, none, true));
-            unchanged(x, before, "read of " + none, () -> x.read(2, none));
-            unchanged(x, before, "told of " + none, () -> x.told(2, none));
-            unchanged(x, before, "conflicts of triple " + none, () -> x.conflicts(0, none));
+            unchanged("put of " + none, x -> x.put(2, none, true));
+            unchanged("read of " + none, x -> x.read(2, none));
+            unchanged("told of " + none, x -> x.told(2, none));
+            unchanged("conflicts of triple " + none, x -> x.conflicts(0, none));
         }
     }
 
-    private static void unchanged(VersionTrans x, String before, String call, Runnable run) {
-        boolean thrown = false;
+    /** One object has the refused call and its twin has not: they must look the same. */
+    private static void unchanged(String call, Consumer<VersionTrans> refused) {
+        VersionTrans x = Scene.withEveryState();
+        VersionTrans twin = Scene.withEveryState();
+        check.due(call + " throws", true, isThrown(x, refused));
+        check.due("what is seen after " + call, Scene.picture(twin, OF_THE_SCENE), Scene.picture(x, OF_THE_SCENE));
+        check.due("graphs noted after " + call, twin.note(2, 0), x.note(2, 0));
+        check.due("the open one ends after " + call, twin.abort(2), x.abort(2));
+        check.due("and then", Scene.picture(twin, OF_THE_SCENE), Scene.picture(x, OF_THE_SCENE));
+    }
+
+    private static boolean isThrown(VersionTrans x, Consumer<VersionTrans> refused) {
         try {
-            run.run();
+            refused.accept(x);
+            return false;
         } catch (IllegalArgumentException | IllegalStateException e) {
-            thrown = true;
+            return true;
         }
-        check.due(call + " throws", true, thrown);
-        check.due("what is seen after " + call, before, Scene.picture(x));
     }
 
     private static void waitingWriteIsNotChanged() {
@@ -918,14 +931,19 @@ public final class BoundaryTermsTest {
 
     private static void refusedAtFullChangesNothing() {
         check.sentence("where there is no room for one more. Nothing is changed then");
-        VersionTrans x = withWriters(59);
-        x.look(0);
-        String before = Scene.picture(x);
-        unchanged(x, before, "begin", x::begin);
-        unchanged(x, before, "look", () -> x.look(0));
+        VersionTrans x = full();
+        check.refused("begin", x::begin);
+        check.refused("look", () -> x.look(0));
+        check.due("what is seen", Scene.picture(full(), 0, 199), Scene.picture(x, 0, 199));
         check.due("the last one goes on", 0, x.commit(59));
         check.due("the first one goes on", 1, x.put(0, 0, true));
         check.due("and makes a version", 1, x.commit(0));
         check.refused("no room still", x::begin);
+    }
+
+    private static VersionTrans full() {
+        VersionTrans x = withWriters(59);
+        x.look(0);
+        return x;
     }
 }

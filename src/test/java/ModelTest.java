@@ -1,9 +1,12 @@
 import java.util.Random;
 import java.util.function.IntSupplier;
 
-/** Long random runs of calls (the seeds are fixed): every answer must be the one of Model. */
+/**
+ * Random runs of calls (the seeds are fixed), as long as the document lets an object be used: every
+ * answer must be the one of Model.
+ */
 public final class ModelTest {
-    private static final int RUNS = 400;
+    private static final int RUNS = 3000;
     private static final int CALLS = 512;
     private static final int IAE = Integer.MIN_VALUE;
     private static final int ISE = Integer.MIN_VALUE + 1;
@@ -13,10 +16,12 @@ public final class ModelTest {
     private final int run;
     private final int triples;
     private final int endsInHundred;
+    private final int notesInHundred;
     private final VersionTrans x = new VersionTrans();
     private final Model model = new Model();
     private final int[] triplesInUse;
     private int begun = 0;
+    private int calls = 0;
 
     private ModelTest(Check check, int run) {
         this.check = check;
@@ -24,6 +29,7 @@ public final class ModelTest {
         random = new Random(run);
         triples = 1 + random.nextInt(run % 4 == 0 ? 40 : 8);
         endsInHundred = 3 + random.nextInt(20);
+        notesInHundred = run % 5 == 0 ? 20 : 4;
         triplesInUse = new int[triples];
         for (int i = 0; i < triples; i++) {
             triplesInUse[i] = random.nextInt(200);
@@ -49,14 +55,19 @@ public final class ModelTest {
     }
 
     private void same(String call, IntSupplier ofModel, IntSupplier ofClass) {
+        if (calls >= CALLS) {
+            return;
+        }
+        calls++;
         check.due("run " + run + ": " + call, answer(ofModel), answer(ofClass));
     }
 
     private void play() {
-        for (int i = 0; i < CALLS && check.wrongSoFar() == 0; i++) {
-            change();
-            if (i % 32 == 31) {
-                compareAll();
+        while (calls < CALLS && check.wrongSoFar() == 0) {
+            if (random.nextInt(100) < 60) {
+                change();
+            } else {
+                ask(random.nextInt(10));
             }
         }
     }
@@ -94,11 +105,11 @@ public final class ModelTest {
             }, () -> x.look(version));
         } else if (kind < 18 + endsInHundred) {
             endOne();
-        } else if (kind < 18 + endsInHundred + 4) {
+        } else if (kind < 18 + endsInHundred + notesInHundred) {
             int party = party();
             int graph = random.nextInt(6) - 1;
             same("note(" + party + ", " + graph + ")", () -> model.note(party, graph), () -> x.note(party, graph));
-        } else if (kind < 18 + endsInHundred + 8) {
+        } else if (kind < 18 + endsInHundred + notesInHundred + 4) {
             pinOrFree();
         } else {
             int party = party();
@@ -139,26 +150,25 @@ public final class ModelTest {
         }
     }
 
-    private void compareAll() {
-        same("rows()", model::rows, x::rows);
-        same("latest()", model::latest, x::latest);
-        same("least()", model::least, x::least);
-        for (int i = -1; i <= 61; i++) {
-            int n = i;
-            same("state(" + n + ")", () -> model.state(n), () -> x.state(n));
-            same("waits(" + n + ")", () -> model.waits(n), () -> x.waits(n));
-            same("ring(" + n + ")", () -> model.ring(n), () -> x.ring(n));
-            same("conflicts(1, " + n + ")", () -> model.conflicts(1, n), () -> x.conflicts(1, n));
-            for (int triple : triplesInUse) {
-                same("read(" + n + ", " + triple + ")",
-                        () -> model.read(n, triple) ? 1 : 0, () -> x.read(n, triple) ? 1 : 0);
-                same("told(" + n + ", " + triple + ")",
-                        () -> model.told(n, triple) ? 1 : 0, () -> x.told(n, triple) ? 1 : 0);
-            }
-        }
-        for (int i = 0; i < triples; i++) {
-            int triple = triplesInUse[i];
-            same("conflicts(0, " + triple + ")", () -> model.conflicts(0, triple), () -> x.conflicts(0, triple));
+    private void ask(int kind) {
+        int party = party();
+        int triple = triple();
+        int version = version();
+        int i = random.nextInt(8) - 1;
+        switch (kind) {
+            case 0 -> same("rows()", model::rows, x::rows);
+            case 1 -> same("latest()", model::latest, x::latest);
+            case 2 -> same("least()", model::least, x::least);
+            case 3 -> same("state(" + party + ")", () -> model.state(party), () -> x.state(party));
+            case 4 -> same("waits(" + party + ")", () -> model.waits(party), () -> x.waits(party));
+            case 5 -> same("ring(" + i + ")", () -> model.ring(i), () -> x.ring(i));
+            case 6 -> same("conflicts(0, " + triple + ")",
+                    () -> model.conflicts(0, triple), () -> x.conflicts(0, triple));
+            case 7 -> same("conflicts(1, " + i + ")", () -> model.conflicts(1, i), () -> x.conflicts(1, i));
+            case 8 -> same("read(" + party + ", " + triple + ")",
+                    () -> model.read(party, triple) ? 1 : 0, () -> x.read(party, triple) ? 1 : 0);
+            default -> same("told(" + version + ", " + triple + ")",
+                    () -> model.told(version, triple) ? 1 : 0, () -> x.told(version, triple) ? 1 : 0);
         }
     }
 }

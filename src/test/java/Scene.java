@@ -53,32 +53,36 @@ final class Scene {
         return x;
     }
 
-    /** Every answer that does not change the object (pin and unpin take each other back). */
-    static String picture(VersionTrans x) {
+    /**
+     * Every answer that does not change the object (pin and unpin take each other back), of these
+     * triples: few enough to stay within the calls that the document promises.
+     */
+    static String picture(VersionTrans x, int... triples) {
         StringBuilder text = new StringBuilder();
         int latest = x.latest();
-        text.append("latest ").append(latest).append(" least ").append(x.least());
-        text.append(" rows ").append(x.rows());
-        for (int version = x.least(); version <= latest; version++) {
-            text.append("\nversion ").append(version).append(" pins ").append(x.pin(version) - 1).append(':');
+        int least = x.least();
+        text.append("latest ").append(latest).append(" least ").append(least).append(" rows ").append(x.rows());
+        for (int version = least; version <= latest; version++) {
+            text.append("\nversion ").append(version).append(" pins ").append(x.pin(version) - 1).append(": ");
             x.unpin(version);
-            for (int triple = 0; triple < 200; triple++) {
-                text.append(x.told(version, triple) ? '1' : '0');
+            for (int triple : triples) {
+                text.append(x.told(version, triple) ? 't' : 'f');
             }
         }
         for (int number = 0; number < 60 && isKnown(x, number); number++) {
-            text.append("\ntransaction ").append(number).append(" state ").append(x.state(number));
-            text.append(" waits ").append(x.waits(number)).append(':');
-            for (int triple = 0; triple < 200 && x.state(number) < 3; triple++) {
-                text.append(x.read(number, triple) ? '1' : '0');
+            int state = x.state(number);
+            text.append("\ntransaction ").append(number).append(" state ").append(state);
+            text.append(" waits ").append(x.waits(number)).append(": ");
+            for (int i = 0; i < triples.length && state < 3; i++) {
+                text.append(x.read(number, triples[i]) ? 't' : 'f');
             }
         }
         text.append("\nring");
-        for (int i = 0; i < 60; i++) {
+        for (int i = 0; i < 5; i++) {
             text.append(' ').append(x.ring(i));
         }
         text.append("\nconflicts");
-        for (int triple = 0; triple < 200; triple++) {
+        for (int triple : triples) {
             text.append(' ').append(x.conflicts(0, triple));
         }
         for (int graph = 0; graph < 4; graph++) {
@@ -87,7 +91,7 @@ final class Scene {
         return text.toString();
     }
 
-    static boolean isKnown(VersionTrans x, int number) {
+    private static boolean isKnown(VersionTrans x, int number) {
         try {
             x.state(number);
             return true;
